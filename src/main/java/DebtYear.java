@@ -665,6 +665,10 @@ public final class DebtYear {
             return sum - paid;
         }
 
+        int openOwed() {
+            return state == OPEN ? owed() : 0;
+        }
+
         boolean isSale() {
             return isUnder(kind, SALE);
         }
@@ -713,6 +717,8 @@ public final class DebtYear {
         final Law[] laws = new Law[MOST_LAWS];
         final Text[] texts = new Text[TEXTS];
         final int[] shifts = new int[BENCHES];
+        /** Worked with by unableBehind() alone; no part of an IMAGE. */
+        private final int[] rests = new int[MOST_PERSONS];
         int personCount = 0;
         int fieldCount = 0;
         int paperCount = 0;
@@ -884,22 +890,17 @@ public final class DebtYear {
         }
 
         int owedBy(int person) {
-            return owedWithout(-1, person, -1, 0);
+            int owed = 0;
+            for (int i = 0; i < paperCount; i++) {
+                owed += papers[i].by == person ? papers[i].openOwed() : 0;
+            }
+            return owed;
         }
 
         int owedTo(int person) {
-            return owedWithout(-1, -1, person, 0);
-        }
-
-        /** OWED by OPEN PAPERS but one, by one and to one PERSON (-1: whoever), of those who can. */
-        private int owedWithout(int paper, int by, int to, int unable) {
             int owed = 0;
             for (int i = 0; i < paperCount; i++) {
-                Paper p = papers[i];
-                if (i != paper && p.state == OPEN && (by == -1 || p.by == by)
-                        && (to == -1 || p.to == to) && (unable >> p.by & 1) == 0) {
-                    owed += p.owed();
-                }
+                owed += papers[i].to == person ? papers[i].openOwed() : 0;
             }
             return owed;
         }
@@ -908,17 +909,31 @@ public final class DebtYear {
             int unable = 0;
             // Each round but the last one adds a PERSON at least, as who can't stays so.
             for (int round = 0; round <= MOST_PERSONS; round++) {
-                int next = 0;
-                for (int i = 0; i < personCount; i++) {
-                    int has = persons[i].store + owedWithout(paper, -1, i, unable);
-                    next |= bit(owedWithout(paper, i, -1, 0) > has) << i;
-                }
+                int next = unableBehind(unable, paper);
                 if (next == unable) {
                     break;
                 }
                 unable = next;
             }
             return unable;
+        }
+
+        /** Who can't, if those who can't are the ones that are told. */
+        private int unableBehind(int unable, int paper) {
+            for (int i = 0; i < personCount; i++) {
+                rests[i] = persons[i].store;
+            }
+            for (int i = 0; i < paperCount; i++) {
+                Paper p = papers[i];
+                int owed = i == paper ? 0 : p.openOwed();
+                rests[p.by] -= owed;
+                rests[p.to] += (unable >> p.by & 1) == 0 ? owed : 0;
+            }
+            int bits = 0;
+            for (int i = 0; i < personCount; i++) {
+                bits |= bit(rests[i] < 0) << i;
+            }
+            return bits;
         }
 
         int fieldsHeldBy(int person) {
@@ -1444,28 +1459,32 @@ public final class DebtYear {
             if (asked > 0) {
                 return asked - 1;
             }
-            int worst = paying(bestPayment(store + low, debt, years), store + low, debt, years);
+            int worst = leastHunger(store + low, debt, years);
             if (high != low) {
-                int other = paying(bestPayment(store + high, debt, years), store + high, debt, years);
-                worst = Math.max(worst, other);
+                worst = Math.max(worst, leastHunger(store + high, debt, years));
             }
             known[place] |= (long) (worst + 1) << shift;
             return worst;
         }
 
-        /** The least of the best payments, the harvest being in already. */
-        private int bestPayment(int has, int debt, int years) {
+        /** The harvest is in already, here and in all below. */
+        private int leastHunger(int has, int debt, int years) {
             int most = mostPayment(has, debt);
-            int best = 0;
             int least = paying(0, has, debt, years);
             for (int payment = 1; payment <= most; payment++) {
-                int hunger = paying(payment, has, debt, years);
-                if (hunger < least) {
-                    least = hunger;
-                    best = payment;
-                }
+                least = Math.min(least, paying(payment, has, debt, years));
             }
-            return best;
+            return least;
+        }
+
+        int bestPayment(int has, int debt, int years) {
+            int most = mostPayment(has, debt);
+            int least = leastHunger(has, debt, years);
+            int payment = 0;
+            while (payment < most && paying(payment, has, debt, years) > least) {
+                payment++;
+            }
+            return payment;
         }
 
         private int paying(int payment, int has, int debt, int years) {

@@ -255,6 +255,7 @@ public final class BenchesLawsTest {
         holds("(1<2)+(2<3)=2", true);
         holds("9999+9999=9998", false);
         holds("0012=12", true);
+        holds("9999-9998=1", true);
     }
 
     private static void holds(String e, boolean want) {

@@ -41,6 +41,7 @@ public final class PapersTest {
         Check.due("due ahead of the year", x.paper(1, 1, 5, 1, 0), Check.BEYOND);
         Check.due("due 401", x.paper(1, 1, 5, 401, 0), Check.BEYOND);
         Check.due("they are one", x.paper(1, 101, 5, 9, 0), Check.SIZE);
+        Check.due("they are one", x.paper(1, 0, 5, 9, 0), Check.SIZE);
         Check.due("BEYOND ahead of SIZE", x.paper(1, 101, 0, 9, 0), Check.BEYOND);
         Check.due("due in the year", x.paper(1, 1, 9999, 2, -7), 0);
         Check.due("due in 400", x.paper(0, 201, 1, 400, 99), 1);
@@ -116,6 +117,8 @@ public final class PapersTest {
         Check.due("serves still", x.personIs(0, 3), 2);
         Check.due("annul", x.annul(3), 5);
         Check.due("free", x.personIs(0, 3), -1);
+        Check.due("serves 0", x.paper(6, 200, 5, 9, 0), 4);
+        Check.due("serves 0 already", x.paper(6, 201, 5, 9, 0), Check.TAKEN);
     }
 
     private static void kinds() {

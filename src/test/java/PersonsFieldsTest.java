@@ -270,5 +270,9 @@ public final class PersonsFieldsTest {
         Check.due("heirs of 0", x.heirs(0), 1 << 7);
         Check.due("heirs of 1", x.heirs(1), 1 << 6);
         Check.due("one alone shares", x.share(0, 7), 1);
+        x.person(0, 1, -1, 0);
+        Check.due("heirs of 0", x.heirs(0), (1 << 7) + (1 << 8));
+        Check.due("two share, then one alone", x.share(0, 8), 2);
+        Check.due("two share from one on", x.share(1, 8), 2);
     }
 }

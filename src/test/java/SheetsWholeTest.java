@@ -5,6 +5,7 @@ public final class SheetsWholeTest {
         put();
         copy();
         image();
+        imageOfWhatWasLived();
         imageHasNot();
         count();
         Check.end();
@@ -173,6 +174,90 @@ public final class SheetsWholeTest {
         x.person(0, -1, -1, 1);
         Check.due("a person that is new behind a restore", x.personIs(2, 1), -1);
         Check.due("its fear", x.fear(2, 1), 3);
+    }
+
+    /** What an image has of persons, fields, papers and laws that are no more as they were made. */
+    private static void imageOfWhatWasLived() {
+        DebtYear x = new DebtYear();
+        x.person(0, -1, -1, 500);
+        x.person(0, -1, -1, 5);
+        x.person(0, 0, -1, 500);
+        x.field(0, 10, true);
+        x.field(2, 10, true);
+        x.paper(3, 2, 50, 9, 0);
+        x.paper(2, 200, 60, 8, 1);
+        x.paper(6, 200, 70, 7, 0);
+        x.pay(0, 20);
+        x.word(0, 1);
+        x.annul(1);
+        x.fear(0, 50);
+        x.fear(2, 50);
+        x.year(0);
+        x.lives(2, true, true);
+        x.die(0);
+        Check.rule(x, "stranger and kind=3 and paid=20", "stranger and walls", "0");
+        x.force(0, 0, 50);
+        int[] asked = all(x);
+        x.image();
+        for (int i = 0; i < 3; i++) {
+            x.fear(2, i);
+            x.fear(0, i);
+            x.lives(2, false, false);
+            x.year(10);
+            x.paper(6, 102, 5, 9, 0);
+            x.annul(2);
+            x.pay(0, 5);
+            x.word(0, 0);
+            x.die(1);
+            x.die(2);
+            Check.text(x, 0, "falls 0;back 0;loan 0;");
+            x.force(0, 1, 0);
+            x.force(0, 0, 0);
+            x.shift(0, 1);
+            x.restore();
+            int[] now = all(x);
+            for (int k = 0; k < asked.length; k++) {
+                Check.due("answer " + k, now[k], asked[k]);
+            }
+            x.person(0, -1, -1, 1);
+            Check.due("one who is new behind a restore", x.personIs(3, 6), 0);
+            Check.due("one who is new behind a restore", x.personIs(3, 3), -1);
+            Check.due("a paper that is new behind a restore", x.paper(1, 301, 9, 9, 0), 3);
+            int[] due = {1, 3, 1, 9, 0, 1, 9, -1, 2, 0};
+            for (int what = 0; what < 10; what++) {
+                Check.due("its " + what, x.paperIs(3, what), due[what]);
+            }
+            Check.due("nobody there is a stranger", x.falls(3, 0, 1), 0);
+            x.pay(3, 1);
+            x.lives(3, true, true);
+            x.year(0);
+        }
+    }
+
+    private static int[] all(DebtYear x) {
+        int[] answers = new int[3 * 8 + 2 * 4 + 3 * 10 + 8 + 12];
+        int n = 0;
+        for (int i = 0; i < 24; i++) {
+            answers[n++] = x.personIs(i / 8, i % 8);
+        }
+        for (int i = 0; i < 8; i++) {
+            answers[n++] = x.fieldIs(i / 4, i % 4);
+        }
+        for (int i = 0; i < 30; i++) {
+            answers[n++] = x.paperIs(i / 10, i % 10);
+        }
+        for (int what = 0; what < 8; what++) {
+            answers[n++] = x.count(what);
+        }
+        for (int bench = 0; bench < 2; bench++) {
+            answers[n++] = x.falls(0, bench, 1);
+            answers[n++] = x.back(1, bench, 1);
+            answers[n++] = x.back(0, bench, 1);
+            answers[n++] = x.law(bench, 400);
+            answers[n++] = x.law(bench, 49);
+            answers[n++] = x.left(bench, 0);
+        }
+        return answers;
     }
 
     private static void imageHasNot() {

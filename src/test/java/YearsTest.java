@@ -12,6 +12,7 @@ public final class YearsTest {
         payingByNumbers();
         theFiftiethYear();
         fieldsGoBack();
+        fieldsGoBackByBench0Alone();
         findingsOfYear();
         years();
         chain();
@@ -84,9 +85,17 @@ public final class YearsTest {
         Check.due("due", x.paperIs(1, 6), 6);
 
         DebtYear y = new DebtYear();
-        y.person(0, -1, -1, 29);
+        y.person(0, -1, -1, 39);
         y.person(0, -1, -1, 0);
         Check.due("19 would be left", y.year(0), 10);
+        y.person(0, -1, -1, 40);
+        Check.due("20 are left", y.year(0), 0);
+        Check.due("who has not eaten yet lends", y.paperIs(0, 2), 2);
+        y.person(0, -1, -1, 9);
+        y.person(0, -1, -1, 99);
+        y.die(1);
+        Check.due("1 is lacking", y.year(0), 0);
+        Check.due("of 1 measure", y.paperIs(1, 3), 1);
         DebtYear z = new DebtYear();
         z.person(0, -1, -1, 1000);
         z.person(0, -1, -1, 0);
@@ -336,6 +345,22 @@ public final class YearsTest {
         Check.due("from the dead root too", x.fieldIs(2, 2), 2);
     }
 
+    private static void fieldsGoBackByBench0Alone() {
+        for (int bench = 0; bench < 2; bench++) {
+            DebtYear x = new DebtYear();
+            x.person(0, -1, -1, 1000);
+            x.person(0, -1, -1, 1000);
+            x.field(0, 5, false);
+            x.paper(3, 1, 30, 400, 0);
+            x.shift(0, 49);
+            Check.text(x, 0, "falls 1;back 1;loan 0;");
+            x.force(0, bench, 0);
+            x.year(0);
+            Check.due("holder by the law of bench " + bench, x.fieldIs(0, 2), bench);
+            Check.due("open by the law of bench " + bench, x.count(3), bench);
+        }
+    }
+
     private static void findingsOfYear() {
         DebtYear x = new DebtYear();
         Check.due("harvest -1", x.year(-1), Check.BEYOND);
@@ -348,6 +373,7 @@ public final class YearsTest {
         Check.due("full", x.year(30), Check.FULL);
         Check.due("BEYOND ahead of FULL", x.year(31), Check.BEYOND);
         Check.due("none go by", x.years(0), 0);
+        Check.due("findings", x.count(8), 4);
     }
 
     private static void years() {
@@ -409,6 +435,19 @@ public final class YearsTest {
         Check.due("a dead one can't", x.chain(1), 1 + 4 + 8);
         Check.due("no such paper", x.chain(5), Check.BEYOND);
         Check.due("no such paper", x.chain(-1), Check.BEYOND);
+
+        DebtYear ring = new DebtYear();
+        for (int i = 0; i < 3; i++) {
+            ring.person(0, -1, -1, 0);
+        }
+        ring.paper(1, 1, 10, 9, 0);
+        ring.paper(1, 102, 10, 9, 0);
+        ring.paper(1, 200, 10, 9, 0);
+        ring.paper(5, 1, 1, 9, 0);
+        Check.due("all in a ring can, as none can't at first", ring.chain(3), 0);
+        Check.due("all but the one who owes nothing can't", ring.chain(0), 1 + 2 + 4);
+        ring.annul(3);
+        Check.due("0 owes nothing then", ring.chain(0), 2 + 4);
     }
 
     private static void last() {
@@ -421,6 +460,9 @@ public final class YearsTest {
         Check.due("the worst", x.last(0, 0, 2, 30), 20);
         Check.due("60 are kept", x.last(60, 0, 8, 3030), 0);
         Check.due("no more than 9 a year", x.last(60, 60, 1, 3030), 102);
+        Check.due("eight years of nothing", x.last(0, 60, 8, 0), 200);
+        Check.due("eight years", x.last(60, 60, 8, 1919), 0);
+        Check.due("eight years", x.last(0, 60, 8, 1616), 12);
         int[][] beyond = {{-1, 0, 0, 0}, {61, 0, 0, 0}, {0, -1, 0, 0}, {0, 61, 0, 0}, {0, 0, -1, 0}, {0, 0, 9, 0},
             {0, 0, 0, -1}, {0, 0, 0, 31}, {0, 0, 0, 3100}, {0, 0, 0, 3130}, {0, 0, 0, 1009}, {0, 0, 0, 100}, {0, 0, 0, -100}};
         for (int[] b : beyond) {
@@ -520,6 +562,9 @@ public final class YearsTest {
         Check.due("payment 10", x.proves(60, 60, 999, 0), 1);
         row(x, 30, -1);
         Check.due("payment -1", x.proves(60, 60, 999, 0), 1);
+        row(x, 3, 0, 4, 0, 12, 0, 0, 0);
+        Check.due("7 and 6 and 8", x.proves(0, 0, 21, 0), -1);
+        Check.due("7 and 6 and 8", x.proves(0, 0, 20, 0), 8);
         row(x, 30, 9, 99);
         Check.due("a last one is not looked at", x.proves(60, 9, 0, 0), -1);
         Check.due("but counted", x.proves(60, 10, 1, 0), 3);
