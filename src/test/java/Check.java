@@ -18,9 +18,19 @@ final class Check {
         asked++;
         if (got != want) {
             wrong++;
-            StackTraceElement[] at = new Throwable().getStackTrace();
-            System.out.println(at[1] + ": " + call + " answered " + got + ", due is " + want);
+            System.out.println(asker() + ": " + call + " answered " + got + ", due is " + want);
         }
+    }
+
+    /** The line of the test itself, not that of a helper. */
+    private static StackTraceElement asker() {
+        StackTraceElement[] at = new Throwable().getStackTrace();
+        for (StackTraceElement e : at) {
+            if (!e.getClassName().equals("Check") && !e.getClassName().equals("Twins")) {
+                return e;
+            }
+        }
+        return at[0];
     }
 
     /** Ends the test, with exit code 1 if an answer was wrong. */
