@@ -390,7 +390,7 @@ public final class DebtYear {
         if (!mayLast(s, o, n, harvests)) {
             return found(BEYOND);
         }
-        thrift.expect(harvests / 100, harvests % 100);
+        thrift.expect(harvests / 100);
         return thrift.sureHunger(s, o, n);
     }
 
@@ -403,7 +403,7 @@ public final class DebtYear {
         if (harvest != low && harvest != high) {
             return found(NONE);
         }
-        thrift.expect(low, high);
+        thrift.expect(low);
         return thrift.bestPayment(s + harvest, o, n);
     }
 
@@ -1423,7 +1423,10 @@ public final class DebtYear {
         }
     }
 
-    /** LAST: the least HUNGER that one can be sure of. */
+    /**
+     * LAST: the least HUNGER that one can be sure of. The low harvest is always the worst: who has
+     * more may pay and eat as one who has less, and keeps no less, so the high one is never looked at.
+     */
     private static final class Thrift {
         static final int MOST_KEPT = 60;
         static final int MOST_YEARS = 8;
@@ -1431,22 +1434,20 @@ public final class DebtYear {
         private static final int STEPS = MOST_KEPT + 1;
 
         private int low = -1;
-        private int high = -1;
         /**
          * For each STORE and debt eight bytes: by years that are left (1 to 8) the HUNGER, at most
-         * 200, and 1; 0 where it was not asked yet. So one row does for all years of both harvests.
+         * 200, and 1; 0 where it was not asked yet. So one row does for all years.
          */
         private final long[] known = new long[STEPS * STEPS];
 
-        void expect(int lowHarvest, int highHarvest) {
-            if (lowHarvest != low || highHarvest != high) {
+        void expect(int lowHarvest) {
+            if (lowHarvest != low) {
                 low = lowHarvest;
-                high = highHarvest;
                 Arrays.fill(known, 0L);
             }
         }
 
-        private int sureHunger(int store, int debt, int years) {
+        int sureHunger(int store, int debt, int years) {
             if (years < 1 || years > MOST_YEARS) {
                 return 2 * debt;
             }
@@ -1459,12 +1460,9 @@ public final class DebtYear {
             if (asked > 0) {
                 return asked - 1;
             }
-            int worst = leastHunger(store + low, debt, years);
-            if (high != low) {
-                worst = Math.max(worst, leastHunger(store + high, debt, years));
-            }
-            known[place] |= (long) (worst + 1) << shift;
-            return worst;
+            int least = leastHunger(store + low, debt, years);
+            known[place] |= (long) (least + 1) << shift;
+            return least;
         }
 
         /** The harvest is in already, here and in all below. */

@@ -273,17 +273,26 @@ public final class BenchesLawsEdgesTest {
     private static void surelyMaybeNot() {
         String[] clauses = {"0", "word", "not word", "1", "word=0", "word=1", "word=2", "word<2", "0-word", "word-1"};
         int[][] due = {{0, 0, 0}, {0, 2, 1}, {2, 0, 1}, {2, 2, 2}, {2, 0, 1}, {0, 2, 1}, {0, 0, 0}, {2, 2, 2}, {0, 2, 1}, {2, 0, 1}};
-        for (int k = 0; k < clauses.length; k++) {
+        for (int k = 0; k < 2 * clauses.length; k++) {
+            // The other bench has a law that says otherwise.
+            String clause = clauses[k / 2];
+            int bench = k % 2;
             DebtYear x = new DebtYear();
             x.person(0, -1, -1, 0);
             x.person(0, -1, -1, 0);
             x.paper(1, 1, 5, 9, 0);
-            Check.rule(x, clauses[k], "0", clauses[k]);
+            Check.text(x, 0, "falls " + clause + ";back 0;loan " + clause + ";");
+            Check.text(x, 1, "falls not(" + clause + ");back 0;loan not(" + clause + ");");
+            x.force(0, bench, 0);
+            x.force(1, 1 - bench, 0);
             for (int word = 0; word < 3; word++) {
                 x.word(0, word);
-                Check.due("falls " + clauses[k] + " by " + word, x.falls(0, 0, 0), due[k][word]);
-                Check.due("loan " + clauses[k] + " by " + word, x.truly(0, 1, 0), due[k][word]);
-                Check.due("dress " + clauses[k] + " by " + word, x.dress(0, 0, 0), due[k][word] == 0 ? 127 : 0);
+                int want = due[k / 2][word];
+                Check.due("falls " + clause + " by " + word, x.falls(0, bench, 0), want);
+                Check.due("loan " + clause + " by " + word, x.truly(0, bench, 0), want);
+                Check.due("dress " + clause + " by " + word, x.dress(0, bench, 0), want == 0 ? 127 : 0);
+                Check.due("falls otherwise", x.falls(0, 1 - bench, 0), 2 - want);
+                Check.due("loan otherwise", x.truly(0, 1 - bench, 0), 2 - want);
             }
         }
     }
@@ -431,9 +440,11 @@ public final class BenchesLawsEdgesTest {
             Check.text(x, 0, "falls 0;back " + e + ";loan 0;");
             x.force(0, 0, 0);
             Check.due(e, x.back(0, 0, 400), 1);
-            Check.text(x, 0, "falls 0;back not " + e + ";loan 0;");
+            Check.text(x, 0, "falls word;back not " + e + ";loan 0;");
             x.force(0, 0, 0);
             Check.due("not " + e, x.back(0, 0, 400), 0);
+            Check.due("a paper's names", x.falls(0, 0, 400), 2);
+            Check.due("a field has nothing of them: not " + e, x.back(0, 0, 400), 0);
         }
     }
 

@@ -128,6 +128,31 @@ final class Lands {
         }
     }
 
+    /** As many PERSONS, FIELDS, PAPERS, LAWS and TEXTS as there may be; the last ones of each are of the last PERSON. */
+    static void fullOfAll(DebtYear x) {
+        rich(x);
+        for (int i = PERSONS; i < 14; i++) {
+            x.person(0, i - 1, i - 2, 30 + i);
+        }
+        x.lives(13, true, true);
+        x.fear(13, 13);
+        for (int i = FIELDS; i < 8; i++) {
+            x.field(i + 6, i, true);
+        }
+        for (int i = PAPERS; i < 20; i++) {
+            x.paper(i == 19 ? 4 : 0, 1312, i, i - 5, 7);
+        }
+        x.word(19, 1);
+        x.text(4);
+        for (int i = 3; i < 12; i++) {
+            x.force(3, i % 2, i);
+        }
+        int[] texts = {1, 2, 4};
+        for (int t : texts) {
+            Check.text(x, t, "falls worth+" + t + ";back word;loan kind;");
+        }
+    }
+
     /** So many bytes are on THE TAPE; rich() has left 8. */
     static void fedTo(DebtYear x, int length) {
         rich(x);

@@ -15,6 +15,7 @@ public final class LastEdgesTest {
         paymentsOfAYear();
         keptAtMost60();
         whateverComes();
+        askedAgain();
         paysFindings();
         neitherLowNorHigh();
         leastOfSeveral();
@@ -125,6 +126,24 @@ public final class LastEdgesTest {
         Check.due("low and high the same", x.last(0, 0, 1, 909), 1);
         Check.due("low one less", x.last(0, 0, 1, 809), 2);
         Check.due("high one more", x.last(0, 0, 1, 910), 1);
+    }
+
+    /** What was asked ahead of it changes no answer. */
+    private static void askedAgain() {
+        DebtYear x = new DebtYear();
+        int[] harvests = {0, 30, 510, 505, 510, 3030, 30, 0};
+        for (int round = 0; round < 2; round++) {
+            for (int h : harvests) {
+                for (int n = 8; n >= 5; n--) {
+                    int want = Model.sure(60, 60, n, h / 100, h % 100);
+                    Check.due("last", x.last(60, 60, n, h), want);
+                    Check.due("last again", x.last(60, 60, n, h), want);
+                }
+                int pays = Model.least(Model.table(7, h / 100, h % 100), 60 + h % 100, 60)[1];
+                Check.due("pays", x.pays(60, 60, 8, h, h % 100), pays);
+                Check.due("pays again", x.pays(60, 60, 8, h, h % 100), pays);
+            }
+        }
     }
 
     private static void paysFindings() {

@@ -434,6 +434,20 @@ public final class PapersEdgesTest {
         Check.due("PAID as it is due: free", due.personIs(Lands.SERVES, 3), -1);
         Check.due("paid", due.paperIs(Lands.SERVED, 9), 1);
 
+        for (int kind = 0; kind <= 5; kind++) {
+            DebtYear x = Twins.of(Lands::rich);
+            x.paper(kind, 304, 5, Lands.YEAR, 1);
+            x.pay(Lands.PAPERS, 5);
+            x.paper(1, 304, 5, Lands.YEAR, 1);
+            x.annul(Lands.PAPERS + 1);
+            x.paper(kind == 2 ? 2 : 1, 304, 5, Lands.YEAR, 1);
+            x.year(0);
+            Check.due("kind " + kind + " is paid", x.paperIs(Lands.PAPERS, 9), 1);
+            Check.due("another one is void", x.paperIs(Lands.PAPERS + 1, 9), 3);
+            Check.due("another one was due", x.paperIs(Lands.PAPERS + 2, 9), 1);
+            Check.due("it serves still", x.personIs(Lands.SERVES, 3), Lands.STRANGER);
+        }
+
         DebtYear open = new DebtYear();
         open.person(0, -1, -1, 0);
         open.person(0, -1, -1, 0);
@@ -469,5 +483,13 @@ public final class PapersEdgesTest {
             x.annul(3);
             Check.due("void: it stays", x.fieldIs(0, 2), 0);
         }
+        DebtYear pledge = new DebtYear();
+        pledge.person(0, -1, -1, 500);
+        pledge.person(0, -1, -1, 500);
+        pledge.field(0, 1, false);
+        pledge.paper(2, 1, 20, 9, 0);
+        pledge.paper(4, 1, 30, 9, 0);
+        Check.due("a pledge is paid", pledge.pay(0, 20), 0);
+        Check.due("its field does not come back, though TO holds it", pledge.fieldIs(0, 2), 1);
     }
 }

@@ -22,6 +22,9 @@ public final class SheetsWholeEdgesTest {
         newestImage();
         imageHasAll();
         imageHasNot();
+        imageOfFullLands();
+        numbersAnewBehindRestore();
+        whatIsGoneDoesNothing();
         countFindings();
         countsOfFindings();
         counts();
@@ -399,6 +402,114 @@ public final class SheetsWholeEdgesTest {
         };
         Check.due("they stay as they are", Twins.differ(apart, restored) ? 1 : 0, 0);
         Check.due("findings", Twins.of(restored).count(8), 3);
+    }
+
+    /** Up to the last PERSON, FIELD, PAPER, LAW and TEXT. */
+    private static void imageOfFullLands() {
+        Consumer<DebtYear> kept = x -> {
+            Lands.fullOfAll(x);
+            x.image();
+        };
+        Check.due("image", Twins.of(Lands::fullOfAll).image(), Lands.YEAR);
+        Twins.keep("restore", Lands.YEAR, kept, DebtYear::restore);
+        Consumer<DebtYear> lived = x -> {
+            kept.accept(x);
+            x.fear(13, 1);
+            x.pay(19, 3);
+            x.annul(18);
+            x.year(30);
+            x.die(13);
+            x.word(19, 0);
+            Check.text(x, 4, "falls 0;back 0;loan 0;");
+            x.restore();
+        };
+        Check.due("all is as it was", Twins.differ(kept, lived) ? 1 : 0, 0);
+        DebtYear x = Twins.of(lived);
+        Check.due("the last person", x.personIs(13, 2), 43);
+        Check.due("the last field", x.fieldIs(7, 2), 12);
+        Check.due("the last paper", x.paperIs(19, 8), 1);
+        Check.due("the last law", x.law(1, 400), 11);
+        Check.due("no more persons", x.person(0, -1, -1, 0), Check.FULL);
+        Check.due("no more fields", x.field(0, 1, false), Check.FULL);
+        Check.due("no more papers", x.paper(0, 102, 1, 9, 0), Check.FULL);
+        Check.due("no more laws", x.force(4, 0, 0), Check.FULL);
+    }
+
+    /** PERSONS, FIELDS, PAPERS and LAWS that are made behind a restore have nothing of those that are gone. */
+    private static void numbersAnewBehindRestore() {
+        Consumer<DebtYear> gone = x -> {
+            x.person(0, -1, -1, 60);
+            x.image();
+            // 1 is in all another one than 1 will be.
+            x.person(-9, 0, -1, 0);
+            x.lives(1, true, true);
+            x.fear(1, 9);
+            x.fear(0, 50);
+            x.field(1, 50, true);
+            x.paper(6, 100, 70, 9, 0);
+            x.paper(3, 100, 80, 9, 0);
+            x.word(0, 1);
+            Check.rule(x, "1", "1", "1");
+            x.lives(1, false, true);
+            x.year(0);
+            x.lives(1, true, true);
+            x.annul(0);
+            x.die(1);
+            Check.due("hungered", x.personIs(1, 6), 10);
+            x.restore();
+        };
+        Consumer<DebtYear> never = x -> {
+            x.person(0, -1, -1, 60);
+            x.image();
+        };
+        Check.due("gone", Twins.differ(gone, never) ? 1 : 0, 0);
+        Consumer<DebtYear> anew = x -> {
+            x.person(0, -1, -1, 40);
+            x.field(0, 6, false);
+            x.paper(1, 100, 5, 7, 0);
+            x.paper(2, 1, 5, 7, 0);
+            Check.text(x, 1, "falls stranger;back stranger;loan word;");
+            x.force(1, 1, 3);
+        };
+        Check.due("anew", Twins.differ(gone.andThen(anew), never.andThen(anew)) ? 1 : 0, 0);
+        DebtYear x = Twins.of(gone.andThen(anew));
+        int[] person = {0, -1, 40, -1, 5, 5, 0, 0};
+        for (int what = 0; what < 8; what++) {
+            Check.due("person " + what, x.personIs(1, what), person[what]);
+        }
+        int[] paper = {1, 1, 0, 5, 0, 0, 7, -1, 2, 0};
+        for (int what = 0; what < 10; what++) {
+            Check.due("paper " + what, x.paperIs(0, what), paper[what]);
+        }
+        int[] field = {6, 0, 0, 0};
+        for (int what = 0; what < 4; what++) {
+            Check.due("field " + what, x.fieldIs(0, what), field[what]);
+        }
+        Check.due("no stranger", x.falls(0, 1, 3), 0);
+        Check.due("fear", x.fear(1, 0), 3);
+        Check.due("no law of bench 0", x.law(0, 400), Check.NONE);
+        Check.due("text 0 was never told", x.force(0, 0, 0), Check.NONE);
+    }
+
+    /** Who is gone by a restore lends nothing, inherits nothing; what is gone brings nothing, is not due and does not fall. */
+    private static void whatIsGoneDoesNothing() {
+        DebtYear x = new DebtYear();
+        x.person(0, -1, -1, 5);
+        x.image();
+        x.person(0, 0, -1, 5000);
+        x.field(0, 10, false);
+        x.paper(1, 1, 3, 0, 0);
+        Check.rule(x, "1", "1", "1");
+        x.restore();
+        x.shift(0, 49);
+        Check.due("nobody lends", x.year(30), 5);
+        Check.due("nothing is due", x.count(2), 0);
+        Check.due("nothing comes", x.count(5), 0);
+        Check.due("no law", x.law(0, 400), Check.NONE);
+        x.die(0);
+        Check.due("no heirs", x.heirs(0), 0);
+        Check.due("no such heir", x.share(0, 1), Check.BEYOND);
+        Check.due("no such parent", x.person(0, 1, -1, 0), Check.BEYOND);
     }
 
     private static void countFindings() {

@@ -343,6 +343,10 @@ public final class TextsEdgesTest {
         fault(" ".repeat(179) + "falls 1;back 1;loan 1", 200);
         fault(" ".repeat(200), 200);
         fault(" ".repeat(199) + ";", 199);
+        fault(" ".repeat(197) + "fal", 197);
+        fault(" ".repeat(195) + "falls", 200);
+        fault("falls" + " ".repeat(192) + "kin", 197);
+        fault("falls" + " ".repeat(192) + "not", 200);
         String ones = "falls(1)" + "+(1)".repeat(44) + ";back(1);loan1;";
         Check.due("length", ones.length(), 199);
         right(ones);

@@ -28,6 +28,8 @@ public final class YearsEdgesTest {
         asItIsThen();
         lawOfThatYear();
         fieldsGoBack();
+        leastHeirIsTheLastPerson();
+        fullLands();
         yearsFindings();
         yearsTellHarvests();
         yearsTill400();
@@ -436,6 +438,13 @@ public final class YearsEdgesTest {
             x.year(0);
             Check.due("TO holds it no more", x.fieldIs(0, 2), 2);
             Check.due("it is paid", x.paperIs(0, 9), 1);
+            DebtYear again = people(10, 100);
+            again.field(0, 9, false);
+            again.paper(kind, 1, 20, 0, 0);
+            again.paper(kind, 100, 5, 400, 0);
+            again.year(0);
+            Check.due("BY holds it again, but it is no pledge", again.fieldIs(0, 2), 0);
+            Check.due("it is open", again.paperIs(0, 9), 0);
         }
     }
 
@@ -580,6 +589,65 @@ public final class YearsEdgesTest {
             Check.due(why[f], x.fieldIs(f, 2), holders[f]);
         }
         Check.due("the papers are open", x.count(3), 4);
+    }
+
+    private static void leastHeirIsTheLastPerson() {
+        DebtYear x = people(9, 9, 9, 9, 9, 9, 9, 9, 9, 9, 9, 9);
+        x.person(0, 0, -1, 9);
+        x.person(0, 12, -1, 9);
+        for (int f = 0; f < 8; f++) {
+            x.field(0, 1, false);
+        }
+        x.paper(3, 5, 5, 400, 7);
+        x.die(0);
+        Check.rule(x, "0", "1", "0");
+        x.image();
+        x.shift(0, 49);
+        x.year(0);
+        Check.due("the last but one", x.fieldIs(0, 2), 12);
+        Check.due("the last field, too", x.fieldIs(7, 2), 12);
+        x.restore();
+        x.die(12);
+        x.shift(0, 49);
+        x.year(0);
+        Check.due("the last person", x.fieldIs(0, 2), 13);
+        Check.due("the last field, too", x.fieldIs(7, 2), 13);
+    }
+
+    /** Up to the last PERSON, FIELD and PAPER. */
+    private static void fullLands() {
+        DebtYear x = new DebtYear();
+        for (int p = 0; p < 14; p++) {
+            x.person(0, -1, -1, p == 13 ? 1000 : 29);
+            x.fear(p, p == 13 ? 0 : 50);
+        }
+        for (int f = 0; f < 8; f++) {
+            x.field(f == 7 ? 13 : 12, 1 + f, false);
+        }
+        for (int p = 0; p < 18; p++) {
+            x.paper(1, 1, 1, p == 17 ? 0 : 400, 0);
+        }
+        Check.due("year", x.year(10), 0);
+        Check.due("the last field brings 8", x.personIs(13, 2), 1000 + 8 - 10);
+        Check.due("the others bring 28", x.personIs(12, 2), 29 + 28 - 10);
+        Check.due("the last paper was due", x.paperIs(17, 9), 1);
+        Check.due("nobody asks", x.year(0), 0);
+        // 0 has 8 then, 1 has 10, 2 to 11 have 9.
+        Check.due("two ask for papers, nine for nothing", x.year(0), 9);
+        Check.due("papers", x.count(2), 20);
+        Check.due("0 asks for 2", x.paperIs(18, 3), 2);
+        Check.due("the last one lends", x.paperIs(18, 2), 13);
+        Check.due("2 asks for 1", x.paperIs(19, 3), 1);
+        x.die(13);
+        Check.due("nobody lends", x.year(0), 120);
+        Check.rule(x, "1", "1", "0");
+        x.shift(0, 45);
+        x.year(0);
+        Check.due("none is open", x.count(3), 0);
+        Check.due("the last field has no heirs", x.fieldIs(7, 2), 13);
+        DebtYear poor = people(0, 0, 0, 0, 0, 0, 0, 0, 0, 0, 0, 0, 0, 0);
+        Check.due("fourteen hunger", poor.year(30), 140);
+        Check.due("no papers", poor.count(2), 0);
     }
 
     private static void yearsFindings() {
