@@ -59,10 +59,10 @@ public final class LastEdgesTest {
 
     /** Behind n years each measure still owed counts as 2 of HUNGER. */
     private static void noYears() {
-        DebtYear x = new DebtYear();
         for (int h : HARVESTS) {
+            DebtYear x = new DebtYear();
             for (int o = 0; o <= 60; o++) {
-                Check.due("o " + o, x.last(o % 61, o, 0, h), 2 * o);
+                Check.due("o " + o, x.last(60 - o, o, 0, h), 2 * o);
             }
         }
     }

@@ -28,6 +28,7 @@ public final class SheetsWholeEdgesTest {
         countFindings();
         countsOfFindings();
         counts();
+        fiveHundredTwelveCalls();
         Check.end();
     }
 
@@ -585,5 +586,28 @@ public final class SheetsWholeEdgesTest {
         Check.due("nobody eats", x.year(30), 0);
         Check.due("eaten", x.count(6), 140);
         Check.due("lost", x.count(7), 16 * 297 + 14 * 9989);
+    }
+
+    /** An object is used for at most 512 calls: the last one of them answers as the others do. */
+    private static void fiveHundredTwelveCalls() {
+        DebtYear asks = new DebtYear();
+        for (int call = 1; call <= 511; call++) {
+            Check.due("call " + call, asks.count(9), Check.BEYOND);
+        }
+        Check.due("call 512", asks.count(8), 511);
+        DebtYear feeds = new DebtYear();
+        for (int call = 1; call <= 510; call += 2) {
+            Check.due("call " + call, feeds.feed(1 + call % 8, -1L), 1 + call % 8);
+            Check.due("a fault", feeds.text(call % 5), 0);
+        }
+        Check.due("call 511", feeds.feed(8, 0), 8);
+        Check.due("call 512", feeds.text(0), 0);
+        DebtYear years = Lands.in(0);
+        years.person(0, -1, -1, 9999);
+        for (int year = 1; year <= 400; year++) {
+            Check.due("year", years.year(0), 0);
+        }
+        Check.due("four hundred years", years.personIs(0, 2), 5999);
+        Check.due("eaten", years.count(6), 4000);
     }
 }

@@ -486,11 +486,11 @@ public final class YearsTest {
 
     /** Against all ways gone through one by one. */
     private static void lastAndPaysByAllWays() {
-        DebtYear x = new DebtYear();
         int[] stores = {0, 1, 9, 10, 17, 33, 58, 60};
         int[] debts = {0, 1, 8, 20, 60};
         int[] harvests = {0, 30, 313, 1010, 1120, 930, 3030, 820};
         for (int s : stores) {
+            DebtYear x = new DebtYear();
             for (int o : debts) {
                 for (int h : harvests) {
                     for (int n = 0; n <= 3; n++) {
